@@ -1,0 +1,56 @@
+/** Promise 9: clash. */
+public final class ClashTest {
+    public static void main(String[] args) {
+        two("p1k1r0:1a;p2k1r0:1a;", 102);
+        two("p40k1r0:1a;p3k1r0:1a;", 340);
+        two("p1k1r0:1a;p2k2r0:1a;", -1);
+        two("p1k1r0:1a;p2k1r1:1a;", -1);
+        two("p1k1@1#1-9r0:1a;p2k1@2#1-9r0:1a;", -1);
+        two("p1k1@1#1-9r0:1a;p2k1r0:1a;", 102);
+        two("p1k1r0:1a;p2k1@1#1-9r0:1a;", 102);
+        two("p1k1@1#1-9r0:1a;p2k1@1#9-12r0:1a;", 102);
+        two("p1k1@1#9-12r0:1a;p2k1@1#1-9r0:1a;", 102);
+        two("p1k1@1#1-9r0:1a;p2k1@1#10-12r0:1a;", -1);
+        two("p1k1@1#10-12r0:1a;p2k1@1#1-9r0:1a;", -1);
+        two("p1k1@1#1-99r0:1a;p2k1@1#10-12r0:1a;", 102);
+        two("p1k1[1-5]r0:1a;p2k1[6-9]r0:1a;", -1);
+        two("p1k1[1-5]r0:1a;p2k1[5-9]r0:1a;", 102);
+        two("p1k1[22-5]r0:1a;p2k1[5-9]r0:1a;", 102);
+        two("p1k1[22-5]r0:1a;p2k1[6-21]r0:1a;", -1);
+        two("p1k1[22-5]r0:1a;p2k1[6-22]r0:1a;", 102);
+        two("p1k1[22-5]r0:1a;p2k1[23-4]r0:1a;", 102);
+        two("p1k1[22-5]r0:1a;p2k1r0:1a;", 102);
+        two("p1k1@1#1-9[1-2]r0:1a;p2k1@1#1-9[3-4]r0:1a;", -1);
+        two("p1k1@1#1-9[1-2]r0:1a;p2k1@1#5-9[2-4]r0:1a;", 102);
+        ordersPairs();
+        refuses();
+        Due.end();
+    }
+
+    private static void two(String text, int due) {
+        PlanText x = Due.with(text);
+        Due.same(text, x.clash(0, 0), due);
+        Due.same(text, x.clash(0, 1), -1);
+    }
+
+    private static void ordersPairs() {
+        // A plan ahead of both does not keep them from clashing.
+        PlanText x = Due.with("p12k1r0:1a;p3k1r0:1a;p7k1r0:1a;p1k1r9:1a;p40k2r0:1a;p39k2r0:1a;p5k1@1#1-1r0:1a;p6k1@2#1-1r0:1a;");
+        int[] due = {305, 306, 307, 312, 507, 512, 607, 612, 712, 3940, -1, -1};
+        for (int i = 0; i < due.length; i++) {
+            Due.same("pair " + i, x.clash(0, i), due[i]);
+        }
+        Due.same("far behind", x.clash(0, Integer.MAX_VALUE), -1);
+    }
+
+    private static void refuses() {
+        PlanText x = new PlanText();
+        Due.read(x, "p1k1r0:1a;p2k1r0:1a;", 3);
+        Due.outside("i -1", () -> x.clash(3, -1));
+        Due.outside("the least i", () -> x.clash(3, Integer.MIN_VALUE));
+        Due.outside("day -1", () -> x.clash(-1, 0));
+        Due.outside("day 10000", () -> x.clash(10000, 0));
+        Due.same("a day without an edition", x.clash(2, 0), -1);
+        Due.same("a day with one", x.clash(9999, 0), 102);
+    }
+}
