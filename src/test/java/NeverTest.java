@@ -24,6 +24,10 @@ public final class NeverTest {
         due("p1k1@1#1-30[23-23]r1:1a;p2k1@1#1-20r2:1a;p3k1@1#21-30[23-23]r3:1a;", 1);
         due("p1k1@1#1-999r1:1a;p2k1@1#1-998r2:1a;");
         due("p1k1@1#999-999r1:1a;p2k1@1#1-999r2:1a;", 1);
+        due("p1k1@1#1-30r1:1a;p40k1@1#1-10r2:1a;p3k1@1#12-40r2:1a;");
+        due("p1k1@1#1-30r1:1a;p40k1@1#11-40r2:1a;p3k1@1#1-10r2:1a;", 1);
+        due("p1k1@1#5-6r1:1a;p2k1@1#1-5r2:1a;");
+        due("p1k1@1#5-6r1:1a;p2k1@1#1-5r2:1a;p3k1@1#6-6r3:1a;", 1);
         // The lower number of one rank leaves nothing to the higher one, not the other way.
         due("p2k1@1#5-9r1:1a;p1k1@1#1-9r1:1a;", 2);
         due("p1k1@1#5-9r1:1a;p2k1@1#1-9r1:1a;");

@@ -238,5 +238,9 @@ public final class PlaceTest {
         Due.same("the latest", x.place(), 0);
         x.read(0);
         Due.same("right again", x.place(), -1);
+        Due.read(x, "p1k1r0:1a~99;", 0);
+        Due.tape(x, "p1k1r0:1a~9");
+        Due.refused("wrong", IllegalStateException.class, () -> x.read(0));
+        Due.same("no byte of an earlier text is read", x.place(), 11);
     }
 }

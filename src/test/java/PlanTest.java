@@ -33,6 +33,7 @@ public final class PlanTest {
         Due.same("the default when no plan of the kind fits", x.plan(3, 1, 2, 1, 0), 0);
         Due.same("a plan ahead of the default", x.plan(3, 1, 1, 1, 0), 7);
         Due.same("none", x.plan(4, 1, 1, 1, 0), -1);
+        Due.same("the greatest number", Due.with("p1k1r0:1a;p40k1r9:1a;").plan(1, 1, 1, 1, 0), 40);
         PlanText y = new PlanText();
         Due.read(y, "p1k1r0:1a;", 5);
         Due.same("a day ahead of all editions", y.plan(1, 1, 1, 1, 4), -1);
