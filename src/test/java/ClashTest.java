@@ -23,7 +23,8 @@ public final class ClashTest {
         two("p1k1@1#1-9[1-2]r0:1a;p2k1@1#1-9[3-4]r0:1a;", -1);
         two("p1k1@1#1-9[1-2]r0:1a;p2k1@1#5-9[2-4]r0:1a;", 102);
         ordersPairs();
-        refuses();
+        refusesNumbersOutsideTheirRange();
+        tellsNoneBehindThem();
         Due.end();
     }
 
@@ -34,6 +35,7 @@ public final class ClashTest {
     }
 
     private static void ordersPairs() {
+        Due.sentence("The i-th (0 first) pair .. by the lower, then the higher number: 100 times the lower, and the higher");
         // A plan ahead of both does not keep them from clashing.
         PlanText x = Due.with("p12k1r0:1a;p3k1r0:1a;p7k1r0:1a;p1k1r9:1a;p40k2r0:1a;p39k2r0:1a;p5k1@1#1-1r0:1a;p6k1@2#1-1r0:1a;");
         int[] due = {305, 306, 307, 312, 507, 512, 607, 612, 712, 3940, -1, -1};
@@ -43,14 +45,36 @@ public final class ClashTest {
         Due.same("far behind", x.clash(0, Integer.MAX_VALUE), -1);
     }
 
-    private static void refuses() {
+    private static void refusesNumbersOutsideTheirRange() {
+        Due.sentence("clash: Range: the day, i.");
         PlanText x = new PlanText();
+        Due.read(x, "p1k1r0:1a;p2k1r0:1a;", 0);
+        for (int v : new int[] {-1, Integer.MIN_VALUE}) {
+            Due.outside("i " + v, () -> x.clash(0, v));
+            Due.outside("i " + v + " without rows", () -> new PlanText().clash(0, v));
+            Due.outside("both", () -> x.clash(v, v));
+        }
+        for (int v : new int[] {-1, 10000, Integer.MIN_VALUE, Integer.MAX_VALUE}) {
+            Due.outside("day " + v, () -> x.clash(v, 0));
+            Due.outside("day " + v + " without rows", () -> new PlanText().clash(v, 0));
+        }
+        Due.same("the least", x.clash(0, 0), 102);
+        Due.same("the greatest day", x.clash(9999, 0), 102);
+    }
+
+    private static void tellsNoneBehindThem() {
+        Due.sentence("clash: -1 when there are not so many");
+        PlanText x = new PlanText();
+        Due.same("no edition", x.clash(0, 0), -1);
         Due.read(x, "p1k1r0:1a;p2k1r0:1a;", 3);
-        Due.outside("i -1", () -> x.clash(3, -1));
-        Due.outside("the least i", () -> x.clash(3, Integer.MIN_VALUE));
-        Due.outside("day -1", () -> x.clash(-1, 0));
-        Due.outside("day 10000", () -> x.clash(10000, 0));
         Due.same("a day without an edition", x.clash(2, 0), -1);
-        Due.same("a day with one", x.clash(9999, 0), 102);
+        Due.same("the first", x.clash(3, 0), 102);
+        for (int i : new int[] {2, 3, 40, 41, 64, 65, 780, 1000, Integer.MAX_VALUE}) {
+            Due.same("the one at " + i, x.clash(3, i), -1);
+        }
+        x.read(3);
+        Due.same("an edition without rows", x.clash(3, 0), -1);
+        Due.read(x, "d1:9a;d2:9a;s[0-23]1:9a;", 3);
+        Due.same("an edition without plans", x.clash(3, 0), -1);
     }
 }

@@ -2,6 +2,7 @@
 final class Due {
     private static int asked = 0;
     private static int wrong = 0;
+    private static String sentence = "";
 
     interface Call {
         long answer();
@@ -10,19 +11,21 @@ final class Due {
     private Due() {
     }
 
+    /** The document's words that the next answers are about, told with each that is not as due. */
+    static void sentence(String words) {
+        sentence = words;
+    }
+
     static void same(String what, long got, long want) {
-        asked++;
-        if (got != want) {
-            wrong++;
-            System.out.println(what + " answered " + got + ", due is " + want);
-        }
+        same(what, Long.toString(got), Long.toString(want));
     }
 
     static void same(String what, String got, String want) {
         asked++;
         if (!got.equals(want)) {
             wrong++;
-            System.out.println(what + " answered " + got + ", due is " + want);
+            System.out.println(what + " answered " + got + ", due is " + want
+                + (sentence.isEmpty() ? "" : " (" + sentence + ")"));
         }
     }
 
@@ -37,6 +40,14 @@ final class Due {
 
     static void outside(String what, Call call) {
         refused(what, IndexOutOfBoundsException.class, call);
+    }
+
+    static void notNow(String what, Call call) {
+        refused(what, IllegalStateException.class, call);
+    }
+
+    static void noRoom(String what, Call call) {
+        refused(what, UnsupportedOperationException.class, call);
     }
 
     static String outcome(Call call) {
@@ -83,6 +94,11 @@ final class Due {
             text.append((char) x.at(i));
         }
         return text.toString();
+    }
+
+    static long town(PlanText x, int skill, int n) {
+        x.town(skill, n);
+        return 0;
     }
 
     static void end() {

@@ -23,7 +23,9 @@ public final class LacksTest {
         x.town(0, 3);
         x.town(1, 1);
         due(x);
-        refuses();
+        ordersPlans();
+        refusesNumbersOutsideTheirRange();
+        tellsNoneBehindThem();
         Due.end();
     }
 
@@ -34,15 +36,45 @@ public final class LacksTest {
         Due.same("no more", x.lacks(0, lacking.length), -1);
     }
 
-    private static void refuses() {
+    private static void ordersPlans() {
+        Due.sentence("The i-th plan that lacks.");
+        PlanText x = Due.with("p40k1r9:1a;p2k1r0:1b;p39k1r5:1a;p10k9r0:2c,1a;p9k1r0:1h;p1k1r0:1a;");
+        x.town(1, 1);
+        due(x, 1, 9, 10, 39, 40);
+        x.town(0, 1);
+        due(x, 9, 10);
+    }
+
+    private static void refusesNumbersOutsideTheirRange() {
+        Due.sentence("lacks: Range: the day, i.");
         PlanText x = new PlanText();
-        Due.read(x, "p1k1r0:1a;", 3);
-        Due.outside("i -1", () -> x.lacks(3, -1));
-        Due.outside("the least i", () -> x.lacks(3, Integer.MIN_VALUE));
-        Due.outside("day -1", () -> x.lacks(-1, 0));
-        Due.outside("day 10000", () -> x.lacks(10000, 0));
+        Due.read(x, "p1k1r0:1a;p2k1r0:1a;", 0);
+        for (int v : new int[] {-1, Integer.MIN_VALUE}) {
+            Due.outside("i " + v, () -> x.lacks(0, v));
+            Due.outside("i " + v + " without rows", () -> new PlanText().lacks(0, v));
+            Due.outside("both", () -> x.lacks(v, v));
+        }
+        for (int v : new int[] {-1, 10000, Integer.MIN_VALUE, Integer.MAX_VALUE}) {
+            Due.outside("day " + v, () -> x.lacks(v, 0));
+            Due.outside("day " + v + " without rows", () -> new PlanText().lacks(v, 0));
+        }
+        Due.same("the least", x.lacks(0, 0), 1);
+        Due.same("the greatest day", x.lacks(9999, 0), 1);
+    }
+
+    private static void tellsNoneBehindThem() {
+        Due.sentence("lacks: -1 when there are not so many");
+        PlanText x = new PlanText();
+        Due.same("no edition", x.lacks(0, 0), -1);
+        Due.read(x, "p1k1r0:1a;p2k1r0:1a;", 3);
         Due.same("a day without an edition", x.lacks(2, 0), -1);
-        Due.same("a day with one", x.lacks(9999, 0), 1);
-        Due.same("far behind", x.lacks(9999, Integer.MAX_VALUE), -1);
+        Due.same("the first", x.lacks(3, 0), 1);
+        for (int i : new int[] {2, 3, 40, 41, 64, 65, 780, 1000, Integer.MAX_VALUE}) {
+            Due.same("the one at " + i, x.lacks(3, i), -1);
+        }
+        x.read(3);
+        Due.same("an edition without rows", x.lacks(3, 0), -1);
+        Due.read(x, "d1:9a;d2:9a;s[0-23]1:9a;", 3);
+        Due.same("an edition without plans", x.lacks(3, 0), -1);
     }
 }

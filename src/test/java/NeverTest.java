@@ -33,7 +33,9 @@ public final class NeverTest {
         due("p1k1@1#5-9r1:1a;p2k1@1#1-9r1:1a;");
         due("p1k1@1#1-9r1:1a;p2k1r1:1a;p3k1@2#1-9r1:1a;p4k1r0:1a;", 3, 4);
         due("p5k2[6-8]r2:1a;p1k2r3:1a;p40k2r3:1a;p30k3r3:1a;", 5, 40);
-        refuses();
+        ordersPlans();
+        refusesNumbersOutsideTheirRange();
+        tellsNoneBehindThem();
         Due.end();
     }
 
@@ -46,14 +48,42 @@ public final class NeverTest {
         Due.same(text + " far behind", x.never(0, Integer.MAX_VALUE), -1);
     }
 
-    private static void refuses() {
+    private static void ordersPlans() {
+        Due.sentence("The i-th plan (by numbers) that is never met");
+        due("p40k1r0:1a;p39k1r0:1a;p3k1r1:1a;p2k1r9:1a;p10k1r8:1a;p9k2r0:1a;", 3, 10, 39, 40);
+        due("p40k1r9:1a;p2k1r0:1a;p1k1r0:1a;", 1, 2);
+    }
+
+    private static void refusesNumbersOutsideTheirRange() {
+        Due.sentence("never: Range: the day, i.");
         PlanText x = new PlanText();
+        Due.read(x, "p1k1r0:1a;p2k1r0:1a;", 0);
+        for (int v : new int[] {-1, Integer.MIN_VALUE}) {
+            Due.outside("i " + v, () -> x.never(0, v));
+            Due.outside("i " + v + " without rows", () -> new PlanText().never(0, v));
+            Due.outside("both", () -> x.never(v, v));
+        }
+        for (int v : new int[] {-1, 10000, Integer.MIN_VALUE, Integer.MAX_VALUE}) {
+            Due.outside("day " + v, () -> x.never(v, 0));
+            Due.outside("day " + v + " without rows", () -> new PlanText().never(v, 0));
+        }
+        Due.same("the least", x.never(0, 0), 2);
+        Due.same("the greatest day", x.never(9999, 0), 2);
+    }
+
+    private static void tellsNoneBehindThem() {
+        Due.sentence("never: -1 when there are not so many");
+        PlanText x = new PlanText();
+        Due.same("no edition", x.never(0, 0), -1);
         Due.read(x, "p1k1r0:1a;p2k1r0:1a;", 3);
-        Due.outside("i -1", () -> x.never(3, -1));
-        Due.outside("the least i", () -> x.never(3, Integer.MIN_VALUE));
-        Due.outside("day -1", () -> x.never(-1, 0));
-        Due.outside("day 10000", () -> x.never(10000, 0));
         Due.same("a day without an edition", x.never(2, 0), -1);
-        Due.same("a day with one", x.never(9999, 0), 2);
+        Due.same("the first", x.never(3, 0), 2);
+        for (int i : new int[] {2, 3, 40, 41, 64, 65, 780, 1000, Integer.MAX_VALUE}) {
+            Due.same("the one at " + i, x.never(3, i), -1);
+        }
+        x.read(3);
+        Due.same("an edition without rows", x.never(3, 0), -1);
+        Due.read(x, "d1:9a;d2:9a;s[0-23]1:9a;", 3);
+        Due.same("an edition without plans", x.never(3, 0), -1);
     }
 }

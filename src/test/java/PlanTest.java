@@ -3,7 +3,9 @@ public final class PlanTest {
     public static void main(String[] args) {
         fits();
         chooses();
-        refuses();
+        tellsNoneAndDefault();
+        refusesUnknownKinds();
+        refusesNumbersOutsideTheirRange();
         Due.end();
     }
 
@@ -41,28 +43,53 @@ public final class PlanTest {
         Due.same("a day behind", y.plan(1, 1, 1, 1, 9999), 1);
     }
 
-    private static void refuses() {
+    private static void refusesUnknownKinds() {
+        Due.sentence("Unknown: no such kind");
         PlanText x = Due.with("p1k1r0:3c;d9:1a;");
-        Due.same("plan", x.plan(1, 1, 1, 1, 0), 1);
-        int[] kinds = {0, 10, -1, Integer.MIN_VALUE, Integer.MAX_VALUE};
-        for (int kind : kinds) {
+        Due.same("the least kind", x.plan(1, 1, 1, 1, 0), 1);
+        for (int kind : new int[] {0, 10, -1, Integer.MIN_VALUE, Integer.MAX_VALUE}) {
             Due.unknown("kind " + kind, () -> x.plan(kind, 1, 1, 1, 0));
             Due.unknown("unknown ahead of range", () -> x.plan(kind, 0, 0, 24, -1));
         }
-        int[] low = {0, -1, Integer.MIN_VALUE};
-        for (int v : low) {
-            Due.outside("street " + v, () -> x.plan(2, v, 1, 1, 0));
-            Due.outside("house " + v, () -> x.plan(2, 1, v, 1, 0));
-            Due.outside("hour", () -> x.plan(2, 1, 1, Math.min(v, -1), 0));
-            Due.outside("day", () -> x.plan(2, 1, 1, 1, Math.min(v, -1)));
-        }
-        Due.outside("street 100", () -> x.plan(2, 100, 1, 1, 0));
-        Due.outside("house 1000", () -> x.plan(2, 1, 1000, 1, 0));
-        Due.outside("hour 24", () -> x.plan(2, 1, 1, 24, 0));
-        Due.outside("day 10000", () -> x.plan(2, 1, 1, 1, 10000));
-        Due.outside("all at the end", () -> x.plan(9, Integer.MAX_VALUE, 1, 1, 0));
         Due.same("refusals leave the needs", x.need(0, 0), 3);
-        Due.same("the greatest", x.plan(9, 99, 999, 23, 9999), 0);
+        Due.same("the greatest kind", x.plan(9, 1, 1, 1, 0), 0);
+    }
+
+    private static void refusesNumbersOutsideTheirRange() {
+        Due.sentence("range: street, house, hour, day");
+        PlanText x = Due.with("p1k1r0:3c;d2:1a;");
         Due.same("the least", x.plan(1, 1, 1, 0, 0), 1);
+        for (int v : new int[] {0, -1, Integer.MIN_VALUE, 100, 1000, Integer.MAX_VALUE}) {
+            Due.outside("street " + v, () -> x.plan(2, v, 1, 1, 0));
+        }
+        for (int v : new int[] {0, -1, Integer.MIN_VALUE, 1000, 1001, Integer.MAX_VALUE}) {
+            Due.outside("house " + v, () -> x.plan(2, 1, v, 1, 0));
+        }
+        for (int v : new int[] {-1, Integer.MIN_VALUE, 24, 25, 32, Integer.MAX_VALUE}) {
+            Due.outside("hour " + v, () -> x.plan(2, 1, 1, v, 0));
+        }
+        for (int v : new int[] {-1, Integer.MIN_VALUE, 10000, Integer.MAX_VALUE}) {
+            Due.outside("day " + v, () -> x.plan(2, 1, 1, 1, v));
+        }
+        Due.outside("without an edition", () -> new PlanText().plan(1, 1, 1, 24, 0));
+        Due.same("refusals leave the needs", x.need(0, 0), 3);
+        Due.same("the greatest", x.plan(2, 99, 999, 23, 9999), 0);
+    }
+
+    private static void tellsNoneAndDefault() {
+        Due.sentence("A call's plan (0 the default, -1 none) on a day; its needs are told by need()");
+        PlanText x = new PlanText();
+        Due.same("no edition", x.plan(1, 1, 1, 1, 0), -1);
+        Due.unknown("no needs", () -> x.need(0, 0));
+        Due.read(x, "p5k1r0:5e;d2:2b;", 1);
+        Due.same("a plan", x.plan(1, 1, 1, 1, 1), 5);
+        Due.same("its need", x.need(0, 0), 5);
+        Due.same("the default", x.plan(2, 1, 1, 1, 1), 0);
+        Due.same("its need", x.need(0, 0), 2);
+        Due.same("none", x.plan(3, 1, 1, 1, 1), -1);
+        Due.unknown("its need", () -> x.need(0, 0));
+        Due.same("a plan again", x.plan(1, 1, 1, 1, 1), 5);
+        Due.same("none on the day before", x.plan(1, 1, 1, 1, 0), -1);
+        Due.unknown("its need", () -> x.need(0, 0));
     }
 }

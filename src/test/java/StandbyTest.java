@@ -2,7 +2,8 @@
 public final class StandbyTest {
     public static void main(String[] args) {
         sums();
-        refuses();
+        refusesUnknownSkills();
+        refusesNumbersOutsideTheirRange();
         Due.end();
     }
 
@@ -28,19 +29,32 @@ public final class StandbyTest {
         Due.same("the last day", y.standby(0, 23, 99, 9999), 72);
     }
 
-    private static void refuses() {
-        PlanText x = Due.with("s[0-23]1:1a;");
-        int[] skills = {-1, 8, Integer.MIN_VALUE, Integer.MAX_VALUE};
-        for (int skill : skills) {
+    private static void refusesUnknownSkills() {
+        Due.sentence("Unknown: no such skill");
+        PlanText x = Due.with("s[0-23]1:1a;s[0-23]1:8h;");
+        for (int skill : new int[] {-1, 8, Integer.MIN_VALUE, Integer.MAX_VALUE}) {
             Due.unknown("skill " + skill, () -> x.standby(skill, 0, 0, 0));
             Due.unknown("unknown ahead of range", () -> x.standby(skill, 24, 100, -1));
         }
-        Due.outside("hour -1", () -> x.standby(0, -1, 1, 0));
-        Due.outside("hour 24", () -> x.standby(0, 24, 1, 0));
-        Due.outside("calls -1", () -> x.standby(0, 0, -1, 0));
-        Due.outside("calls 100", () -> x.standby(0, 0, 100, 0));
-        Due.outside("day -1", () -> x.standby(0, 0, 1, -1));
-        Due.outside("day 10000", () -> x.standby(0, 0, 1, 10000));
-        Due.same("standby", x.standby(0, 0, 1, 0), 1);
+        Due.same("the least skill", x.standby(0, 0, 1, 0), 1);
+        Due.same("the greatest skill", x.standby(7, 0, 1, 0), 8);
+    }
+
+    private static void refusesNumbersOutsideTheirRange() {
+        Due.sentence("range: the hour, calls (0 .. 99), the day");
+        PlanText x = Due.with("s[0-23]1:1a;");
+        for (int v : new int[] {-1, 24, 32, Integer.MIN_VALUE, Integer.MAX_VALUE}) {
+            Due.outside("hour " + v, () -> x.standby(0, v, 1, 0));
+        }
+        for (int v : new int[] {-1, 100, Integer.MIN_VALUE, Integer.MAX_VALUE}) {
+            Due.outside("calls " + v, () -> x.standby(0, 0, v, 0));
+        }
+        for (int v : new int[] {-1, 10000, Integer.MIN_VALUE, Integer.MAX_VALUE}) {
+            Due.outside("day " + v, () -> x.standby(0, 0, 1, v));
+        }
+        Due.outside("without an edition", () -> new PlanText().standby(0, 24, 0, 0));
+        Due.same("the least", x.standby(0, 0, 0, 0), 0);
+        Due.same("the least with calls", x.standby(0, 0, 1, 0), 1);
+        Due.same("the greatest", x.standby(0, 23, 99, 9999), 1);
     }
 }
