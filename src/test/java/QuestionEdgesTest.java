@@ -95,6 +95,15 @@ public final class QuestionEdgesTest {
         never("p1k1r0:1a;p2k1[5-4]r1:1a;", 1);
         never("p1k1r0:1a;p2k1@5#1-999r1:1a;");
         never("p1k1@5#1-999r0:1a;p2k1r1:1a;", 1);
+        // What is left stands behind the lowest or the highest of the plans, or on no told street.
+        never("p1k1@5#10-19r1:1a;p2k1@5#10-20r0:1a;");
+        never("p1k1@5#10-20r1:1a;p2k1@5#10-20r0:1a;", 2);
+        never("p40k1@5#10-19r1:1a;p2k1@5#10-20r0:1a;");
+        never("p40k1@5#10-20r1:1a;p2k1@5#10-20r0:1a;", 2);
+        never("p1k1@5#10-19r0:1a;p40k1@5#10-20r0:1a;");
+        never("p39k1@5#10-20r0:1a;p40k1@5#10-20r0:1a;", 40);
+        never("p1k1r0:1a;p2k1@1#1-999r1:1a;p3k1@99#1-999r1:1a;p4k1@2#1-999r1:1a;");
+        never("p1k1[8-9]r0:1a;p2k1[8-8]r1:1a;p3k1@1#1-999[9-9]r1:1a;");
         // The one house left is left at one hour alone.
         never("p1k1@5#1-3r0:1a;p2k1@5#1-1r1:1a;p3k1@5#3-3r1:1a;p4k1@5#2-2[0-22]r1:1a;");
         never("p1k1@5#1-3r0:1a;p2k1@5#1-1r1:1a;p3k1@5#3-3r1:1a;p4k1@5#2-2[0-22]r1:1a;p5k1@5#1-3[23-23]r2:1a;", 1);

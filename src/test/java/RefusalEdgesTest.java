@@ -138,11 +138,13 @@ public final class RefusalEdgesTest {
     }
 
     private static void usesUpTheTapeOfAWrongText() {
-        PlanText x = lived("p1kx");
-        Due.notNow("read of a wrong text", () -> x.read(9));
-        PlanText never = lived("");
-        Due.same("where it is wrong", x.place(), 3);
-        Due.same("all but the place", Seen.of(x).replaceFirst("place 3", "place 2"), Seen.of(never));
+        for (String text : new String[] {"p1kx", "p7k1r0:1a;d7:1a;s[0-23]1:1a;x", "p7k1r0:1a;d7:1a", "x"}) {
+            PlanText x = begun();
+            Due.tape(x, text);
+            Due.notNow("read of " + text, () -> x.read(9));
+            String place = "place " + Model.placeOf(text) + " ";
+            Due.same("all but the place behind " + text, Seen.of(x).replaceFirst(place, "place -1 "), Seen.of(begun()));
+        }
     }
 
     private static void usesUpTheTapeWithoutRoom() {
@@ -167,12 +169,18 @@ public final class RefusalEdgesTest {
 
     /** An object that has something of everything: editions, units, a place, needs told, a print, a tape. */
     private static PlanText lived(String tape) {
+        PlanText x = begun();
+        Due.tape(x, "p1x");
+        Due.notNow("a wrong text", () -> x.read(5));
+        Due.tape(x, tape);
+        return x;
+    }
+
+    private static PlanText begun() {
         PlanText x = new PlanText();
         Due.read(x, "p1k1r0:2a/b,9h~9;p2k1r0:1a;d2:1c;s[22-5]1:1a;", 5);
         Due.read(x, "p3k1@7#10-20r1:3b;p4k1@7#1-99r1:9c;", 9);
-        Due.tape(x, "p1x");
-        Due.notNow("a wrong text", () -> x.read(5));
-        finish(x, tape);
+        ask(x);
         return x;
     }
 
@@ -182,15 +190,15 @@ public final class RefusalEdgesTest {
         for (int i = 1; i <= 6; i++) {
             Due.read(x, "p" + i + "k1r0:2a/b,9h~9;", 3 + i);
         }
-        finish(x, tape);
+        ask(x);
+        Due.tape(x, tape);
         return x;
     }
 
-    private static void finish(PlanText x, String tape) {
+    private static void ask(PlanText x) {
         x.town(0, 1);
         x.town(7, 99);
         x.plan(1, 1, 1, 1, 5);
         x.print(5);
-        Due.tape(x, tape);
     }
 }
