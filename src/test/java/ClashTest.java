@@ -1,8 +1,18 @@
 /** Promise 9: clash. */
 public final class ClashTest {
     public static void main(String[] args) {
+        tellsPairsThatClash();
+        ordersPairs();
+        refusesNumbersOutsideTheirRange();
+        tellsNoneBehindThem();
+        Due.end();
+    }
+
+    private static void tellsPairsThatClash() {
+        Due.sentence("pair of plans of a day's edition that clash");
         two("p1k1r0:1a;p2k1r0:1a;", 102);
         two("p40k1r0:1a;p3k1r0:1a;", 340);
+        two("p1k1r0:1a;p2k1r0:1a;d1:1a;s[0-23]1:1a;", 102);
         two("p1k1r0:1a;p2k2r0:1a;", -1);
         two("p1k1r0:1a;p2k1r1:1a;", -1);
         two("p1k1@1#1-9r0:1a;p2k1@2#1-9r0:1a;", -1);
@@ -22,10 +32,6 @@ public final class ClashTest {
         two("p1k1[22-5]r0:1a;p2k1r0:1a;", 102);
         two("p1k1@1#1-9[1-2]r0:1a;p2k1@1#1-9[3-4]r0:1a;", -1);
         two("p1k1@1#1-9[1-2]r0:1a;p2k1@1#5-9[2-4]r0:1a;", 102);
-        ordersPairs();
-        refusesNumbersOutsideTheirRange();
-        tellsNoneBehindThem();
-        Due.end();
     }
 
     private static void two(String text, int due) {

@@ -1,6 +1,15 @@
 /** Promise 11: lacks. */
 public final class LacksTest {
     public static void main(String[] args) {
+        tellsPlansThatLack();
+        ordersPlans();
+        refusesNumbersOutsideTheirRange();
+        tellsNoneBehindThem();
+        Due.end();
+    }
+
+    private static void tellsPlansThatLack() {
+        Due.sentence("plan that lacks");
         PlanText x = Due.with("p40k1r0:2a,1b;p3k1r0:3a/b/c;p5k9r0:1d;p6k1r0:9h/g,9h/g;d1:9e;s[0-23]1:9f;");
         due(x, 3, 5, 6, 40);
         x.town(0, 2);
@@ -23,10 +32,6 @@ public final class LacksTest {
         x.town(0, 3);
         x.town(1, 1);
         due(x);
-        ordersPlans();
-        refusesNumbersOutsideTheirRange();
-        tellsNoneBehindThem();
-        Due.end();
     }
 
     private static void due(PlanText x, int... lacking) {

@@ -1,11 +1,21 @@
 /** Promise 10: never. */
 public final class NeverTest {
     public static void main(String[] args) {
+        tellsPlansNeverMet();
+        ordersPlans();
+        refusesNumbersOutsideTheirRange();
+        tellsNoneBehindThem();
+        Due.end();
+    }
+
+    private static void tellsPlansNeverMet() {
+        Due.sentence("plan .. that is never met");
         due("p1k1r0:1a;");
         due("p1k1r0:1a;p2k1r0:1a;", 2);
         due("p1k1r0:1a;p2k1r1:1a;", 1);
         due("p1k1r0:1a;p2k2r1:1a;");
         due("p1k1r0:1a;d1:1a;");
+        due("p1k1r0:1a;p2k1r0:1a;d1:1a;s[0-23]1:1a;", 2);
         due("p1k1@7#12-18r4:1a;p2k1@7#10-20r5:1a;", 1);
         due("p1k1@7#12-18r4:1a;p2k1@7#10-17r5:1a;");
         due("p1k1@7#12-18r4:1a;p2k1@7#13-20r5:1a;");
@@ -33,10 +43,6 @@ public final class NeverTest {
         due("p1k1@1#5-9r1:1a;p2k1@1#1-9r1:1a;");
         due("p1k1@1#1-9r1:1a;p2k1r1:1a;p3k1@2#1-9r1:1a;p4k1r0:1a;", 3, 4);
         due("p5k2[6-8]r2:1a;p1k2r3:1a;p40k2r3:1a;p30k3r3:1a;", 5, 40);
-        ordersPlans();
-        refusesNumbersOutsideTheirRange();
-        tellsNoneBehindThem();
-        Due.end();
     }
 
     private static void due(String text, int... never) {

@@ -54,5 +54,17 @@ public final class NewObjectTest {
         Due.same("the tape", Due.read(second, "p2k1r0:1a;", 0), 1);
         Due.same("the town", second.lacks(0, 0), 2);
         Due.same("the editions", first.plan(1, 1, 1, 1, 0), 1);
+        // Two tapes, filled by turns.
+        PlanText third = new PlanText();
+        PlanText fourth = new PlanText();
+        third.sign(Due.packed("p3k1r0:"), 7);
+        fourth.sign(Due.packed("p4k2r1:"), 7);
+        third.sign(Due.packed("3c;"), 3);
+        fourth.sign(Due.packed("4d;"), 3);
+        Due.same("one tape", Due.outcome(() -> third.read(0)), "1");
+        Due.same("the other tape", Due.outcome(() -> fourth.read(0)), "1");
+        Due.same("one's print", third.print(0), 10);
+        Due.same("the other's print", Due.printed(fourth, 0), "p4k2r1:4d;");
+        Due.same("one's print still", third.at(1), '3');
     }
 }

@@ -3,6 +3,7 @@ public final class PlaceTest {
     private static final String NEXT = "p1k1r0:1a;";
 
     public static void main(String[] args) {
+        Due.sentence("Where the latest text was wrong");
         missing();
         planNumbers();
         streetsAndHouses();

@@ -10,6 +10,7 @@ public final class PlanTest {
     }
 
     private static void fits() {
+        Due.sentence("A call's plan .. on a day: one that fits");
         PlanText x = Due.with("p1k1@7#10-20r0:1a;p2k2[22-5]r0:1a;p3k3[5-22]r0:1a;p4k4[7-7]r0:1a;p5k5@99#999-999[0-23]r0:1a;");
         Due.same("kind", x.plan(6, 7, 15, 0, 0), -1);
         Due.same("street", x.plan(1, 8, 15, 0, 0), -1);
@@ -26,6 +27,7 @@ public final class PlanTest {
     }
 
     private static void chooses() {
+        Due.sentence("A call's plan .. on a day: the first of those that fit");
         PlanText x = Due.with("p9k1r3:1a;p3k1r3:1a;p1k1r2:1a;p20k1@5#1-9r9:1a;p2k1@5#5-9[3-3]r9:1a;d1:1a;d2:1b;d3:1c;p7k3@1#1-1r0:1a;");
         Due.same("highest rank, then lowest number", x.plan(1, 1, 1, 1, 0), 3);
         Due.same("rank ahead of number", x.plan(1, 5, 1, 1, 0), 20);

@@ -25,7 +25,7 @@ public final class RefusalEdgesTest {
     }
 
     private static void tellsUnknownAheadOfRange() {
-        PlanText x = lived("");
+        PlanText x = Lived.with("");
         for (int n : new int[] {-1, 100}) {
             Due.unknown("town -1 " + n, () -> Due.town(x, -1, n));
             Due.unknown("town 8 " + n, () -> Due.town(x, 8, n));
@@ -52,23 +52,23 @@ public final class RefusalEdgesTest {
 
     private static void tellsRangeAheadOfState() {
         for (int day : new int[] {-1, 10000}) {
-            PlanText x = lived("p0");
+            PlanText x = Lived.with("p0");
             Due.outside("read of a wrong text for day " + day, () -> x.read(day));
         }
     }
 
     private static void tellsRangeAheadOfRoom() {
         for (int day : new int[] {-1, 10000}) {
-            PlanText x = full("d1:1a;");
+            PlanText x = Lived.full("d1:1a;");
             Due.outside("read of a seventh text for day " + day, () -> x.read(day));
         }
-        PlanText y = lived(" ".repeat(400));
+        PlanText y = Lived.with(" ".repeat(400));
         Due.outside("no bytes on a full tape", () -> y.sign(' ', 0));
         Due.outside("nine bytes on a full tape", () -> y.sign(' ', 9));
     }
 
     private static void tellsStateAheadOfRoom() {
-        PlanText x = full("p0");
+        PlanText x = Lived.full("p0");
         Due.notNow("read of a wrong seventh text", () -> x.read(5));
         Due.same("where it is wrong", x.place(), 1);
     }
@@ -126,11 +126,10 @@ public final class RefusalEdgesTest {
         String text = " ".repeat(387) + "p1k1r0:1a";
         for (int n = 5; n <= 8; n++) {
             int bytes = n;
-            PlanText x = lived(text);
-            Due.noRoom(n + " bytes behind 396", () -> x.sign(Due.packed("/b/c~99;"), bytes));
-            Due.same("all behind the refusal of " + n + " bytes", Seen.of(x), Seen.of(lived(text)));
+            leavesAll(UnsupportedOperationException.class, n + " bytes behind 396", text,
+                x -> x.sign(Due.packed("/b/c~99;"), bytes));
         }
-        PlanText y = lived(text);
+        PlanText y = Lived.with(text);
         Due.noRoom("8 bytes behind 396", () -> y.sign(Due.packed("/b/c~99;"), 8));
         Due.same("4 bytes behind 396", y.sign(Due.packed("/b ;"), 4), 400);
         Due.same("read of the full tape", y.read(9), 1);
@@ -139,66 +138,45 @@ public final class RefusalEdgesTest {
 
     private static void usesUpTheTapeOfAWrongText() {
         for (String text : new String[] {"p1kx", "p7k1r0:1a;d7:1a;s[0-23]1:1a;x", "p7k1r0:1a;d7:1a", "x"}) {
-            PlanText x = begun();
-            Due.tape(x, text);
-            Due.notNow("read of " + text, () -> x.read(9));
-            String place = "place " + Model.placeOf(text) + " ";
-            Due.same("all but the place behind " + text, Seen.of(x).replaceFirst(place, "place -1 "), Seen.of(begun()));
+            Due.same("all but the place behind " + text,
+                Seen.without("place", Seen.of(() -> behindAWrongText(text))), Seen.without("place", Seen.of(Lived::begun)));
+            Due.same("place of " + text, behindAWrongText(text).place(), Model.placeOf(text));
         }
+    }
+
+    private static PlanText behindAWrongText(String text) {
+        PlanText x = Lived.begun();
+        Due.tape(x, text);
+        Due.notNow("read of " + text, () -> x.read(9));
+        return x;
     }
 
     private static void usesUpTheTapeWithoutRoom() {
-        PlanText x = full("p1x");
+        Due.same("all behind a seventh text", Seen.of(RefusalEdgesTest::behindASeventhText), Seen.of(() -> Lived.full("")));
+    }
+
+    private static PlanText behindASeventhText() {
+        PlanText x = Lived.full("p1x");
         Due.notNow("a wrong text", () -> x.read(9));
         Due.tape(x, "d1:1a;");
         Due.noRoom("a seventh text", () -> x.read(9));
-        Due.same("all behind it", Seen.of(x), Seen.of(full("")));
+        return x;
     }
 
     private static void unknown(String what, Refused refused) {
-        PlanText x = lived("d3:1a;");
-        Due.unknown(what, () -> refused.call(x));
-        Due.same("all behind the refusal of " + what, Seen.of(x), Seen.of(lived("d3:1a;")));
+        leavesAll(IllegalArgumentException.class, what, "d3:1a;", refused);
     }
 
     private static void outside(String what, Refused refused) {
-        PlanText x = lived("d3:1a;");
-        Due.outside(what, () -> refused.call(x));
-        Due.same("all behind the refusal of " + what, Seen.of(x), Seen.of(lived("d3:1a;")));
+        leavesAll(IndexOutOfBoundsException.class, what, "d3:1a;", refused);
     }
 
-    /** An object that has something of everything: editions, units, a place, needs told, a print, a tape. */
-    private static PlanText lived(String tape) {
-        PlanText x = begun();
-        Due.tape(x, "p1x");
-        Due.notNow("a wrong text", () -> x.read(5));
-        Due.tape(x, tape);
-        return x;
-    }
-
-    private static PlanText begun() {
-        PlanText x = new PlanText();
-        Due.read(x, "p1k1r0:2a/b,9h~9;p2k1r0:1a;d2:1c;s[22-5]1:1a;", 5);
-        Due.read(x, "p3k1@7#10-20r1:3b;p4k1@7#1-99r1:9c;", 9);
-        ask(x);
-        return x;
-    }
-
-    /** An object with six editions, the latest of them read right. */
-    private static PlanText full(String tape) {
-        PlanText x = new PlanText();
-        for (int i = 1; i <= 6; i++) {
-            Due.read(x, "p" + i + "k1r0:2a/b,9h~9;", 3 + i);
-        }
-        ask(x);
-        Due.tape(x, tape);
-        return x;
-    }
-
-    private static void ask(PlanText x) {
-        x.town(0, 1);
-        x.town(7, 99);
-        x.plan(1, 1, 1, 1, 5);
-        x.print(5);
+    private static void leavesAll(Class<? extends RuntimeException> due, String what, String tape, Refused refused) {
+        Seen.Made behind = () -> {
+            PlanText x = Lived.with(tape);
+            Due.refused(what, due, () -> refused.call(x));
+            return x;
+        };
+        Due.same("all behind the refusal of " + what, Seen.of(behind), Seen.of(() -> Lived.with(tape)));
     }
 }

@@ -1,80 +1,100 @@
-/** All that can be asked of an object, as a text: two objects that answer all of it alike are alike. */
+/**
+ * All that can be asked of an object, as a text with a line for each thing it holds: two objects that answer all of it
+ * alike are alike. Each line is asked of an object made anew, so that no question hides what another one would see.
+ */
 final class Seen {
-    private static final int[] DAYS = {4, 5, 8, 9};
+    private static final int[] DAYS = {2, 3, 4, 5, 8, 9, 9999};
 
-    private final PlanText x;
-    private final StringBuilder seen = new StringBuilder();
-
-    private Seen(PlanText x) {
-        this.x = x;
+    interface Made {
+        PlanText make();
     }
 
-    /** First what other questions would change: the needs told and the print; the tape is used up last. */
-    static String of(PlanText x) {
-        Seen all = new Seen(x);
-        all.lookAtLatest();
-        for (int day : DAYS) {
-            all.lookAtDay(day);
-        }
-        all.lookAtTape();
-        return all.seen.toString();
+    private interface Look {
+        void at(PlanText x, Seen seen);
     }
 
-    private void see(String what, Due.Call call) {
-        seen.append(what).append(Due.outcome(call)).append(' ');
+    private final StringBuilder text = new StringBuilder();
+
+    private Seen() {
     }
 
-    private void lookAtLatest() {
-        see("place ", x::place);
-        for (int what = 0; what < 4; what++) {
-            int asked = what;
-            see("count ", () -> x.count(asked));
-        }
-        for (int i = 0; i < 3; i++) {
-            for (int what = 0; what < 5; what++) {
-                int need = i;
-                int asked = what;
-                see("need ", () -> x.need(need, asked));
-            }
-        }
-        lookAtPrint();
+    static String of(Made made) {
+        Seen seen = new Seen();
+        seen.line("place", made, (x, s) -> s.see(x::place));
+        seen.line("counts", made, (x, s) -> s.seeEach(4, what -> x.count(what)));
+        seen.line("needs", made, (x, s) -> s.seeNeeds(x));
+        seen.line("latest print", made, (x, s) -> s.seeEach(200, i -> x.at(i)));
+        seen.line("lacks", made, (x, s) -> s.seeDays(day -> s.seeEach(17, i -> x.lacks(day, i))));
+        seen.line("clashes", made, (x, s) -> s.seeDays(day -> s.seeEach(3, i -> x.clash(day, i))));
+        seen.line("never", made, (x, s) -> s.seeDays(day -> s.seeEach(3, i -> x.never(day, i))));
+        seen.line("standby", made, (x, s) -> s.seeDays(day -> s.seeEach(8, skill -> x.standby(skill, 23, 99, day))));
+        seen.line("plans", made, (x, s) -> s.seeDays(day -> s.seePlans(x, day)));
+        seen.line("prints", made, (x, s) -> s.seeDays(day -> s.seePrint(x, day)));
+        seen.line("tape", made, (x, s) -> s.seeTape(x));
+        return seen.text.toString();
     }
 
-    private void lookAtPrint() {
-        for (int i = 0; i < 60; i++) {
-            int at = i;
-            String sign = Due.outcome(() -> x.at(at));
-            seen.append(sign).append('.');
-            if (sign.equals("-1")) {
-                break;
-            }
-        }
-        seen.append(' ');
+    /** What was seen, but for one line of it. */
+    static String without(String name, String seen) {
+        return seen.replaceFirst("(?m)^" + name + ":.*\n", "");
     }
 
-    private void lookAtDay(int day) {
-        for (int i = 0; i < 2; i++) {
+    private void line(String name, Made made, Look look) {
+        text.append(name).append(":");
+        look.at(made.make(), this);
+        text.append("\n");
+    }
+
+    private interface Numbered {
+        long answer(int i);
+    }
+
+    private interface OfDay {
+        void see(int day);
+    }
+
+    private void see(Due.Call call) {
+        text.append(' ').append(Due.outcome(call));
+    }
+
+    private void seeEach(int many, Numbered numbered) {
+        for (int i = 0; i < many; i++) {
             int asked = i;
-            see("clash ", () -> x.clash(day, asked));
-            see("never ", () -> x.never(day, asked));
-            see("lacks ", () -> x.lacks(day, asked));
+            see(() -> numbered.answer(asked));
         }
-        see("standby a ", () -> x.standby(0, 23, 99, day));
-        see("standby h ", () -> x.standby(7, 0, 1, day));
+    }
+
+    private void seeDays(OfDay ofDay) {
+        for (int day : DAYS) {
+            text.append(" day ").append(day);
+            ofDay.see(day);
+        }
+    }
+
+    private void seeNeeds(PlanText x) {
+        for (int i = 0; i < 3; i++) {
+            int need = i;
+            seeEach(5, what -> x.need(need, what));
+        }
+    }
+
+    private void seePlans(PlanText x, int day) {
         for (int kind = 1; kind <= 3; kind++) {
             int asked = kind;
-            see("plan ", () -> x.plan(asked, 7, 15, 12, day));
-            see("its need ", () -> x.need(0, 0));
+            see(() -> x.plan(asked, 7, 15, 12, day));
+            seeNeeds(x);
         }
-        see("print ", () -> x.print(day));
-        lookAtPrint();
     }
 
-    private void lookAtTape() {
-        see("tape ", () -> x.sign(' ', 1));
-        see("read ", () -> x.read(9));
-        see("place ", x::place);
-        see("print ", () -> x.print(9));
-        lookAtPrint();
+    private void seePrint(PlanText x, int day) {
+        see(() -> x.print(day));
+        seeEach(40, i -> x.at(i));
+    }
+
+    private void seeTape(PlanText x) {
+        see(() -> x.sign(' ', 1));
+        see(() -> x.read(9999));
+        see(x::place);
+        seePrint(x, 9999);
     }
 }

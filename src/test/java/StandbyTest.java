@@ -8,6 +8,7 @@ public final class StandbyTest {
     }
 
     private static void sums() {
+        Due.sentence("standby: Standby.");
         PlanText x = Due.with("s[20-6]3:1a;s[0-23]1:2a;s[6-6]9:9a;s[5-20]1:4h;s[5-20]1:4h;");
         Due.same("both", x.standby(0, 21, 3, 0), 3);
         Due.same("calls are below", x.standby(0, 21, 2, 0), 2);

@@ -60,6 +60,10 @@ public final class WrongEdgesTest {
             Rows.wrong(row);
             Rows.wrong("p3k3r3:3c;" + row);
             Rows.wrong(row.replace(";", " ;p3k3r3:3c;"));
+            // Also when the text ends right behind the number.
+            String number = row.replaceFirst("(!\\d+).*", "$1");
+            Rows.wrong(number);
+            Rows.wrong(number + "  ");
         }
     }
 
@@ -115,6 +119,9 @@ public final class WrongEdgesTest {
     private static void isWrongAtAPlanToldTwice() {
         Due.sentence("a plan .. told twice in a text at the last byte of the number");
         Rows.wrong("p1k1r0:1a;p!1k1r0:1a;");
+        Rows.wrong("p1k1r0:1a;p!1");
+        Rows.wrong("p1k1r0:1a;p!1   ");
+        Rows.wrong("p10k1r0:1a;p1!0");
         Rows.wrong("p1k1r0:1a;p!1k0r0:1a;");
         Rows.wrong("p9k1r0:1a;p2k2r0:1a;p!9k2@3#4-5r9:2b;");
         Rows.wrong("p10k1r0:1a;p1!0k1r0:1a;");
@@ -132,6 +139,8 @@ public final class WrongEdgesTest {
     private static void isWrongAtADefaultToldTwice() {
         Due.sentence("a default told twice in a text at the last byte of the number");
         Rows.wrong("d1:1a;d!1:1a;");
+        Rows.wrong("d1:1a;d!1");
+        Rows.wrong("d1:1a;d!1   ");
         Rows.wrong("d9:1a;d1:1a;d!9:2b;");
         Rows.wrong("d9:1a;p9k9r0:1a; d !9 :2b;");
         Rows.wrong("d1:1a;d1!0:1a;");
