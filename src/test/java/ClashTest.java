@@ -53,34 +53,11 @@ public final class ClashTest {
 
     private static void refusesNumbersOutsideTheirRange() {
         Due.sentence("clash: Range: the day, i.");
-        PlanText x = new PlanText();
-        Due.read(x, "p1k1r0:1a;p2k1r0:1a;", 0);
-        for (int v : new int[] {-1, Integer.MIN_VALUE}) {
-            Due.outside("i " + v, () -> x.clash(0, v));
-            Due.outside("i " + v + " without rows", () -> new PlanText().clash(0, v));
-            Due.outside("both", () -> x.clash(v, v));
-        }
-        for (int v : new int[] {-1, 10000, Integer.MIN_VALUE, Integer.MAX_VALUE}) {
-            Due.outside("day " + v, () -> x.clash(v, 0));
-            Due.outside("day " + v + " without rows", () -> new PlanText().clash(v, 0));
-        }
-        Due.same("the least", x.clash(0, 0), 102);
-        Due.same("the greatest day", x.clash(9999, 0), 102);
+        Listed.refusesNumbersOutsideTheirRange((x, day, i) -> x.clash(day, i), 102);
     }
 
     private static void tellsNoneBehindThem() {
         Due.sentence("clash: -1 when there are not so many");
-        PlanText x = new PlanText();
-        Due.same("no edition", x.clash(0, 0), -1);
-        Due.read(x, "p1k1r0:1a;p2k1r0:1a;", 3);
-        Due.same("a day without an edition", x.clash(2, 0), -1);
-        Due.same("the first", x.clash(3, 0), 102);
-        for (int i : new int[] {2, 3, 40, 41, 64, 65, 780, 1000, Integer.MAX_VALUE}) {
-            Due.same("the one at " + i, x.clash(3, i), -1);
-        }
-        x.read(3);
-        Due.same("an edition without rows", x.clash(3, 0), -1);
-        Due.read(x, "d1:9a;d2:9a;s[0-23]1:9a;", 3);
-        Due.same("an edition without plans", x.clash(3, 0), -1);
+        Listed.tellsNoneBehindThem((x, day, i) -> x.clash(day, i), 102);
     }
 }

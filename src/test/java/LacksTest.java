@@ -52,34 +52,11 @@ public final class LacksTest {
 
     private static void refusesNumbersOutsideTheirRange() {
         Due.sentence("lacks: Range: the day, i.");
-        PlanText x = new PlanText();
-        Due.read(x, "p1k1r0:1a;p2k1r0:1a;", 0);
-        for (int v : new int[] {-1, Integer.MIN_VALUE}) {
-            Due.outside("i " + v, () -> x.lacks(0, v));
-            Due.outside("i " + v + " without rows", () -> new PlanText().lacks(0, v));
-            Due.outside("both", () -> x.lacks(v, v));
-        }
-        for (int v : new int[] {-1, 10000, Integer.MIN_VALUE, Integer.MAX_VALUE}) {
-            Due.outside("day " + v, () -> x.lacks(v, 0));
-            Due.outside("day " + v + " without rows", () -> new PlanText().lacks(v, 0));
-        }
-        Due.same("the least", x.lacks(0, 0), 1);
-        Due.same("the greatest day", x.lacks(9999, 0), 1);
+        Listed.refusesNumbersOutsideTheirRange((x, day, i) -> x.lacks(day, i), 1);
     }
 
     private static void tellsNoneBehindThem() {
         Due.sentence("lacks: -1 when there are not so many");
-        PlanText x = new PlanText();
-        Due.same("no edition", x.lacks(0, 0), -1);
-        Due.read(x, "p1k1r0:1a;p2k1r0:1a;", 3);
-        Due.same("a day without an edition", x.lacks(2, 0), -1);
-        Due.same("the first", x.lacks(3, 0), 1);
-        for (int i : new int[] {2, 3, 40, 41, 64, 65, 780, 1000, Integer.MAX_VALUE}) {
-            Due.same("the one at " + i, x.lacks(3, i), -1);
-        }
-        x.read(3);
-        Due.same("an edition without rows", x.lacks(3, 0), -1);
-        Due.read(x, "d1:9a;d2:9a;s[0-23]1:9a;", 3);
-        Due.same("an edition without plans", x.lacks(3, 0), -1);
+        Listed.tellsNoneBehindThem((x, day, i) -> x.lacks(day, i), 1);
     }
 }

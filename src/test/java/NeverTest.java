@@ -62,34 +62,11 @@ public final class NeverTest {
 
     private static void refusesNumbersOutsideTheirRange() {
         Due.sentence("never: Range: the day, i.");
-        PlanText x = new PlanText();
-        Due.read(x, "p1k1r0:1a;p2k1r0:1a;", 0);
-        for (int v : new int[] {-1, Integer.MIN_VALUE}) {
-            Due.outside("i " + v, () -> x.never(0, v));
-            Due.outside("i " + v + " without rows", () -> new PlanText().never(0, v));
-            Due.outside("both", () -> x.never(v, v));
-        }
-        for (int v : new int[] {-1, 10000, Integer.MIN_VALUE, Integer.MAX_VALUE}) {
-            Due.outside("day " + v, () -> x.never(v, 0));
-            Due.outside("day " + v + " without rows", () -> new PlanText().never(v, 0));
-        }
-        Due.same("the least", x.never(0, 0), 2);
-        Due.same("the greatest day", x.never(9999, 0), 2);
+        Listed.refusesNumbersOutsideTheirRange((x, day, i) -> x.never(day, i), 2);
     }
 
     private static void tellsNoneBehindThem() {
         Due.sentence("never: -1 when there are not so many");
-        PlanText x = new PlanText();
-        Due.same("no edition", x.never(0, 0), -1);
-        Due.read(x, "p1k1r0:1a;p2k1r0:1a;", 3);
-        Due.same("a day without an edition", x.never(2, 0), -1);
-        Due.same("the first", x.never(3, 0), 2);
-        for (int i : new int[] {2, 3, 40, 41, 64, 65, 780, 1000, Integer.MAX_VALUE}) {
-            Due.same("the one at " + i, x.never(3, i), -1);
-        }
-        x.read(3);
-        Due.same("an edition without rows", x.never(3, 0), -1);
-        Due.read(x, "d1:9a;d2:9a;s[0-23]1:9a;", 3);
-        Due.same("an edition without plans", x.never(3, 0), -1);
+        Listed.tellsNoneBehindThem((x, day, i) -> x.never(day, i), 2);
     }
 }
